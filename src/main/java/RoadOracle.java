@@ -1,0 +1,911 @@
+import java.util.Arrays;
+import java.util.NoSuchElementException;
+
+/**
+ * A routing oracle for a road network with turn penalties, built on a customizable contraction
+ * hierarchy over the roads.
+ *
+ * <p>Two ways of holding things go through the whole file. A set of roads is a long in which bit r
+ * stands for road r. A length is an int that holds a cost above and a number of roads below
+ * (ROAD_BITS), so that a plain comparison finds the least cost and, of equal costs, the fewest
+ * roads; NONE is the length of what does not exist, and lies above all others.
+ */
+public final class RoadOracle {
+    public static final int FORBIDDEN = -1;
+    public static final int DEFAULT = -2;
+
+    private static final int MAX_JUNCTIONS = 32;
+    private static final int MAX_ROADS = 64;
+    private static final int MAX_WEIGHT = 10000;
+    private static final int MAX_PENALTY = 1000;
+    private static final int MAX_LEVELS = 8;
+    private static final int KINDS = 4;
+    private static final int FIRST_U_TURN = 100;
+    private static final int PAIRS = MAX_ROADS * MAX_ROADS;
+
+    // A best path passes a road at most once, so its number of roads stays below 128.
+    private static final int ROAD_BITS = 7;
+    // Above every length of a best path (703000 << 7), and the sum of two still fits an int.
+    private static final int NONE = 1 << 29;
+
+    private final Network network;
+    private final Hierarchy hierarchy;
+    private final Levels levels;
+    private final boolean[] places;
+    private final int[] lengths;
+    private final int[] pathRoads;
+    private int pathLength;
+    private int pathCost;
+    private final int[] reachedJunctions;
+    private final int[] reachedCosts;
+    private int reachedCount;
+
+    public RoadOracle() {
+        network = new Network();
+        hierarchy = new Hierarchy(network);
+        levels = new Levels();
+        places = new boolean[MAX_JUNCTIONS * KINDS];
+        lengths = new int[MAX_ROADS];
+        pathRoads = new int[MAX_ROADS];
+        reachedJunctions = new int[MAX_JUNCTIONS];
+        reachedCosts = new int[MAX_JUNCTIONS];
+    }
+
+    // ---- network
+
+    public int addJunction() throws IllegalStateException {
+        if (network.junctions >= MAX_JUNCTIONS) {
+            throw new IllegalStateException("no more junctions");
+        }
+        network.junctions++;
+        return network.junctions - 1;
+    }
+
+    public int addRoad(int from, int to, int weight)
+            throws IndexOutOfBoundsException, IllegalArgumentException, IllegalStateException {
+        requireJunction(from);
+        requireJunction(to);
+        if (from == to) {
+            throw new IllegalArgumentException("a road ends at another junction");
+        }
+        requireWeight(weight);
+        if (network.roads >= MAX_ROADS) {
+            throw new IllegalStateException("no more roads");
+        }
+        hierarchy.built = false;
+        return network.append(from, to, weight);
+    }
+
+    public int setWeight(int road, int weight)
+            throws IndexOutOfBoundsException, IllegalArgumentException {
+        requireRoad(road);
+        requireWeight(weight);
+        network.weights[road] = weight;
+        return hierarchy.renewRoad(road);
+    }
+
+    public int setOpen(int road, boolean isOpen) throws IndexOutOfBoundsException {
+        requireRoad(road);
+        return openOrClose(road, isOpen);
+    }
+
+    public int setTurn(int first, int second, int setting)
+            throws IndexOutOfBoundsException, IllegalArgumentException {
+        requireTurn(first, second);
+        if (setting < DEFAULT || setting > MAX_PENALTY) {
+            throw new IllegalArgumentException("a setting is -2 to 1000");
+        }
+        network.settings[pair(first, second)] = setting;
+        return hierarchy.renewTurn(first, second);
+    }
+
+    public int setUTurn(int penalty) throws IllegalArgumentException {
+        if (penalty < FORBIDDEN || penalty > MAX_PENALTY) {
+            throw new IllegalArgumentException("a U-turn penalty is -1 to 1000");
+        }
+        network.uTurn = penalty;
+        return hierarchy.renewAll();
+    }
+
+    public int junctionCount() {
+        return network.junctions;
+    }
+
+    public int roadCount() {
+        return network.roads;
+    }
+
+    public int weight(int road) throws IndexOutOfBoundsException {
+        requireRoad(road);
+        return network.weights[road];
+    }
+
+    public boolean isOpen(int road) throws IndexOutOfBoundsException {
+        requireRoad(road);
+        return has(network.openRoads, road);
+    }
+
+    public int turnPenalty(int first, int second)
+            throws IndexOutOfBoundsException, IllegalArgumentException {
+        requireTurn(first, second);
+        return network.penaltyOf(first, second);
+    }
+
+    // ---- hierarchy
+
+    public int prepare() throws IllegalStateException {
+        if (network.roads == 0) {
+            throw new IllegalStateException("there are no roads");
+        }
+        if (!hierarchy.built) {
+            hierarchy.build();
+        }
+        return hierarchy.shortcuts;
+    }
+
+    public boolean isPrepared() {
+        return hierarchy.built;
+    }
+
+    public int position(int road) throws IllegalStateException, IndexOutOfBoundsException {
+        requireHierarchy();
+        requireRoad(road);
+        return hierarchy.positions[road];
+    }
+
+    public int arcCount() {
+        return hierarchy.built ? hierarchy.arcs : 0;
+    }
+
+    public boolean hasArc(int first, int second)
+            throws IllegalStateException, IndexOutOfBoundsException {
+        requireHierarchy();
+        requireRoad(first);
+        requireRoad(second);
+        return has(hierarchy.heads[first], second);
+    }
+
+    public int arcCost(int first, int second)
+            throws IllegalStateException, IndexOutOfBoundsException, NoSuchElementException {
+        requireHierarchy();
+        requireRoad(first);
+        requireRoad(second);
+        if (!has(hierarchy.heads[first], second)) {
+            throw new NoSuchElementException("there is no such arc");
+        }
+        return costOf(hierarchy.lengths[pair(first, second)]);
+    }
+
+    // ---- distances and paths
+
+    public int distance(int from, int to) throws IllegalStateException, IndexOutOfBoundsException {
+        requireHierarchy();
+        requireJunction(from);
+        requireJunction(to);
+        return costBetween(from, to);
+    }
+
+    public int distanceBehind(int road, int to)
+            throws IllegalStateException, IndexOutOfBoundsException {
+        requireHierarchy();
+        requireRoad(road);
+        requireJunction(to);
+        Arrays.fill(lengths, NONE);
+        if (has(network.openRoads, road)) {
+            lengths[road] = 0;
+        }
+        hierarchy.spreadForward(lengths);
+        return costOf(leastAmong(network.ending[to]));
+    }
+
+    public int route(int from, int to)
+            throws IllegalStateException, IndexOutOfBoundsException, NoSuchElementException {
+        requireHierarchy();
+        requireJunction(from);
+        requireJunction(to);
+        if (from == to) {
+            pathLength = 0;
+            pathCost = 0;
+            return 0;
+        }
+        searchTo(to);
+        int first = bestFirstRoad(from);
+        if (first < 0) {
+            throw new NoSuchElementException("there is no path");
+        }
+        pathCost = costOf(network.roadLength(first) + lengths[first]);
+        pathLength = writePath(first);
+        return pathLength;
+    }
+
+    public int routeRoad(int index) throws IndexOutOfBoundsException {
+        if (index < 0 || index >= pathLength) {
+            throw new IndexOutOfBoundsException("no such index in the path");
+        }
+        return pathRoads[index];
+    }
+
+    public int routeCost() {
+        return pathCost;
+    }
+
+    public int reach(int from, int budget)
+            throws IllegalStateException, IndexOutOfBoundsException, IllegalArgumentException {
+        requireHierarchy();
+        requireJunction(from);
+        if (budget < 0) {
+            throw new IllegalArgumentException("a budget is not negative");
+        }
+        searchFrom(from);
+        reachedCount = 0;
+        for (int junction = 0; junction < network.junctions; junction++) {
+            int cost = foundCost(from, junction);
+            if (cost >= 0 && cost <= budget) {
+                keepReached(junction, cost);
+            }
+        }
+        return reachedCount;
+    }
+
+    public int reached(int index) throws IndexOutOfBoundsException {
+        if (index < 0 || index >= reachedCount) {
+            throw new IndexOutOfBoundsException("no such index among the junctions");
+        }
+        return reachedJunctions[index];
+    }
+
+    public double averageDistance(int from)
+            throws IllegalStateException, IndexOutOfBoundsException {
+        requireHierarchy();
+        requireJunction(from);
+        searchFrom(from);
+        int sum = 0;
+        int count = 0;
+        for (int junction = 0; junction < network.junctions; junction++) {
+            int cost = foundCost(from, junction);
+            if (junction != from && cost >= 0) {
+                sum += cost;
+                count++;
+            }
+        }
+        return count == 0 ? 0.0 : (double) sum / (double) count;
+    }
+
+    public int detour(int from, int to, int road)
+            throws IllegalStateException, IndexOutOfBoundsException, NoSuchElementException {
+        requireHierarchy();
+        requireJunction(from);
+        requireJunction(to);
+        requireRoad(road);
+        int now = costBetween(from, to);
+        if (now < 0) {
+            throw new NoSuchElementException("there is no path");
+        }
+        if (!has(network.openRoads, road)) {
+            return 0;
+        }
+        openOrClose(road, false);
+        int then = costBetween(from, to);
+        openOrClose(road, true);
+        return then < 0 ? -1 : then - now;
+    }
+
+    // ---- places
+
+    public boolean setPlace(int junction, int kind, boolean isThere)
+            throws IndexOutOfBoundsException {
+        requireJunction(junction);
+        requireKind(kind);
+        boolean wasThere = places[place(junction, kind)];
+        places[place(junction, kind)] = isThere;
+        return wasThere;
+    }
+
+    public int nearest(int from, int kind)
+            throws IllegalStateException, IndexOutOfBoundsException, NoSuchElementException {
+        requireHierarchy();
+        requireJunction(from);
+        requireKind(kind);
+        searchFrom(from);
+        int nearestJunction = -1;
+        int leastCost = NONE;
+        for (int junction = 0; junction < network.junctions; junction++) {
+            int cost = foundCost(from, junction);
+            if (places[place(junction, kind)] && cost >= 0 && cost < leastCost) {
+                nearestJunction = junction;
+                leastCost = cost;
+            }
+        }
+        if (nearestJunction < 0) {
+            throw new NoSuchElementException("there is no path to such a place");
+        }
+        return nearestJunction;
+    }
+
+    // ---- levels
+
+    public int push() throws IllegalStateException {
+        if (levels.count >= MAX_LEVELS) {
+            throw new IllegalStateException("no more levels");
+        }
+        levels.store(network);
+        return levels.count;
+    }
+
+    public int pop() throws IllegalStateException {
+        if (levels.count <= 0) {
+            throw new IllegalStateException("there is no level");
+        }
+        levels.restore(network);
+        return hierarchy.renewAll();
+    }
+
+    public long digest() {
+        long d = 23;
+        d = d * 31 + network.junctions;
+        d = d * 31 + network.roads;
+        d = d * 31 + levels.count;
+        d = d * 31 + (hierarchy.built ? hierarchy.arcs : 0);
+        for (int road = 0; road < network.roads; road++) {
+            d = d * 31 + network.weights[road];
+            d = d * 31 + (has(network.openRoads, road) ? 1 : 0);
+            if (hierarchy.built) {
+                d = d * 31 + hierarchy.positions[road];
+            }
+        }
+        return hierarchy.built ? hierarchy.addArcs(d) : d;
+    }
+
+    // ---- what the arguments are tested for
+
+    private void requireJunction(int junction) {
+        if (junction < 0 || junction >= network.junctions) {
+            throw new IndexOutOfBoundsException("no such junction");
+        }
+    }
+
+    private void requireRoad(int road) {
+        if (road < 0 || road >= network.roads) {
+            throw new IndexOutOfBoundsException("no such road");
+        }
+    }
+
+    private void requireTurn(int first, int second) {
+        requireRoad(first);
+        requireRoad(second);
+        if (network.end[first] != network.begin[second]) {
+            throw new IllegalArgumentException("the second road does not follow the first");
+        }
+    }
+
+    private void requireKind(int kind) {
+        if (kind < 0 || kind >= KINDS) {
+            throw new IndexOutOfBoundsException("no such kind");
+        }
+    }
+
+    private void requireWeight(int weight) {
+        if (weight < 1 || weight > MAX_WEIGHT) {
+            throw new IllegalArgumentException("a weight is 1 to 10000");
+        }
+    }
+
+    private void requireHierarchy() {
+        if (!hierarchy.built) {
+            throw new IllegalStateException("there is no hierarchy");
+        }
+    }
+
+    // ---- searches; they leave the lengths by road in the row lengths
+
+    private int openOrClose(int road, boolean isOpen) {
+        long others = network.openRoads & ~only(road);
+        network.openRoads = isOpen ? others | only(road) : others;
+        return hierarchy.renewRoad(road);
+    }
+
+    /** Finds the length of the best path from the junction that ends with each road. */
+    private void searchFrom(int junction) {
+        Arrays.fill(lengths, NONE);
+        long starts = network.beginning[junction] & network.openRoads;
+        for (int road = next(starts, 0); road < MAX_ROADS; road = next(starts, road + 1)) {
+            lengths[road] = network.roadLength(road);
+        }
+        hierarchy.spreadForward(lengths);
+    }
+
+    /** Finds the length of the best way to the junction from behind each road. */
+    private void searchTo(int junction) {
+        Arrays.fill(lengths, NONE);
+        long goals = network.ending[junction] & network.openRoads;
+        for (int road = next(goals, 0); road < MAX_ROADS; road = next(goals, road + 1)) {
+            lengths[road] = 0;
+        }
+        hierarchy.spreadBackward(lengths);
+    }
+
+    private int leastAmong(long roads) {
+        int least = NONE;
+        for (int road = next(roads, 0); road < MAX_ROADS; road = next(roads, road + 1)) {
+            least = Math.min(least, lengths[road]);
+        }
+        return least;
+    }
+
+    /** The distance between two junctions after searchFrom(from); -1 if there is no path. */
+    private int foundCost(int from, int to) {
+        return from == to ? 0 : costOf(leastAmong(network.ending[to]));
+    }
+
+    private int costBetween(int from, int to) {
+        searchFrom(from);
+        return foundCost(from, to);
+    }
+
+    /** The road that the best path begins with, after searchTo; -1 if there is no path. */
+    private int bestFirstRoad(int from) {
+        long starts = network.beginning[from] & network.openRoads;
+        int first = -1;
+        int least = NONE;
+        for (int road = next(starts, 0); road < MAX_ROADS; road = next(starts, road + 1)) {
+            int length = network.roadLength(road) + lengths[road];
+            if (length < least) {
+                first = road;
+                least = length;
+            }
+        }
+        return first;
+    }
+
+    /** Writes the best path down, after searchTo, and returns the number of its roads. */
+    private int writePath(int first) {
+        int count = 0;
+        int road = first;
+        while (road >= 0 && count < MAX_ROADS) {
+            pathRoads[count] = road;
+            count++;
+            // Only a road that ends at the goal has the length 0, as every step has one road more.
+            road = lengths[road] == 0 ? -1 : bestNextRoad(road);
+        }
+        return count;
+    }
+
+    private int bestNextRoad(int road) {
+        long followers = network.followersOf(road);
+        for (int then = next(followers, 0); then < MAX_ROADS; then = next(followers, then + 1)) {
+            if (network.stepLength(road, then) + lengths[then] == lengths[road]) {
+                return then;
+            }
+        }
+        return -1;
+    }
+
+    /** Puts a junction behind all kept ones that are not farther away. */
+    private void keepReached(int junction, int cost) {
+        if (reachedCount >= MAX_JUNCTIONS) {
+            return;
+        }
+        int index = reachedCount;
+        while (index > 0 && reachedCosts[index - 1] > cost) {
+            reachedJunctions[index] = reachedJunctions[index - 1];
+            reachedCosts[index] = reachedCosts[index - 1];
+            index--;
+        }
+        reachedJunctions[index] = junction;
+        reachedCosts[index] = cost;
+        reachedCount++;
+    }
+
+    // ---- small things that all classes here use
+
+    private static int costOf(int length) {
+        return length >= NONE ? -1 : length >> ROAD_BITS;
+    }
+
+    private static int pair(int first, int second) {
+        return first * MAX_ROADS + second;
+    }
+
+    private static int place(int junction, int kind) {
+        return junction * KINDS + kind;
+    }
+
+    private static long only(int road) {
+        return 1L << road;
+    }
+
+    private static boolean has(long roads, int road) {
+        return (roads >> road & 1L) != 0;
+    }
+
+    /** The smallest road of the set that is not smaller than start; MAX_ROADS if there is none. */
+    private static int next(long roads, int start) {
+        if (start >= MAX_ROADS) {
+            return MAX_ROADS;
+        }
+        return Long.numberOfTrailingZeros(roads & (-1L << start));
+    }
+
+    /** The junctions, the roads and the turns as they are now. */
+    private static final class Network {
+        int junctions;
+        int roads;
+        final int[] begin;
+        final int[] end;
+        final int[] weights;
+        final int[] settings;
+        final long[] beginning;
+        final long[] ending;
+        long openRoads;
+        int uTurn;
+
+        Network() {
+            begin = new int[MAX_ROADS];
+            end = new int[MAX_ROADS];
+            weights = new int[MAX_ROADS];
+            settings = new int[PAIRS];
+            Arrays.fill(settings, DEFAULT);
+            beginning = new long[MAX_JUNCTIONS];
+            ending = new long[MAX_JUNCTIONS];
+            uTurn = FIRST_U_TURN;
+        }
+
+        int append(int from, int to, int newWeight) {
+            int road = roads;
+            begin[road] = from;
+            end[road] = to;
+            weights[road] = newWeight;
+            beginning[from] |= only(road);
+            ending[to] |= only(road);
+            openRoads |= only(road);
+            roads++;
+            return road;
+        }
+
+        long allRoads() {
+            return roads >= MAX_ROADS ? -1L : only(roads) - 1;
+        }
+
+        long followersOf(int road) {
+            return beginning[end[road]];
+        }
+
+        long forerunnersOf(int road) {
+            return ending[begin[road]];
+        }
+
+        int penaltyOf(int first, int second) {
+            int setting = settings[pair(first, second)];
+            if (setting != DEFAULT) {
+                return setting;
+            }
+            return end[second] == begin[first] ? uTurn : 0;
+        }
+
+        int roadLength(int road) {
+            return (weights[road] << ROAD_BITS) + 1;
+        }
+
+        /** The length of the turn with the second road; NONE if a closure or the turn bars it. */
+        int stepLength(int first, int second) {
+            int penalty = penaltyOf(first, second);
+            if (penalty == FORBIDDEN || !has(openRoads, first) || !has(openRoads, second)) {
+                return NONE;
+            }
+            return (penalty << ROAD_BITS) + roadLength(second);
+        }
+    }
+
+    /** The order of the roads, and the arcs with their lengths. */
+    private static final class Hierarchy {
+        final Network network;
+        boolean built;
+        int roads;
+        int arcs;
+        int shortcuts;
+        final int[] positions;
+        final int[] order;
+        // The roads with smaller positions, those that arcs lead to, and those that arcs lead from.
+        final long[] lower;
+        final long[] heads;
+        final long[] tails;
+        // The length of each arc, and what it would be without any road between its two roads.
+        final int[] lengths;
+        final int[] steps;
+        // The arcs to compute anew, each at its lower road: by their heads, and by their tails.
+        final long[] staleHeads;
+        final long[] staleTails;
+
+        Hierarchy(Network itsNetwork) {
+            network = itsNetwork;
+            positions = new int[MAX_ROADS];
+            order = new int[MAX_ROADS];
+            lower = new long[MAX_ROADS];
+            heads = new long[MAX_ROADS];
+            tails = new long[MAX_ROADS];
+            lengths = new int[PAIRS];
+            steps = new int[PAIRS];
+            staleHeads = new long[MAX_ROADS];
+            staleTails = new long[MAX_ROADS];
+        }
+
+        void build() {
+            roads = network.roads;
+            int turns = linkTurns();
+            long left = network.allRoads();
+            for (int taken = 0; taken < roads; taken++) {
+                int road = cheapest(left);
+                positions[road] = taken;
+                order[taken] = road;
+                lower[road] = network.allRoads() & ~left;
+                left &= ~only(road);
+                bridge(tails[road] & left, heads[road] & left);
+            }
+            arcs = 0;
+            for (int road = 0; road < roads; road++) {
+                arcs += Long.bitCount(heads[road]);
+            }
+            shortcuts = arcs - turns;
+            built = true;
+            // Without any step no arc has a length; from there on all steps are changes.
+            Arrays.fill(lengths, NONE);
+            Arrays.fill(steps, NONE);
+            renewAll();
+        }
+
+        private int linkTurns() {
+            int turns = 0;
+            for (int road = 0; road < roads; road++) {
+                heads[road] = network.followersOf(road);
+                tails[road] = network.forerunnersOf(road);
+                turns += Long.bitCount(heads[road]);
+            }
+            return turns;
+        }
+
+        /** The road to take next, of those that are left, among which there is one at least. */
+        private int cheapest(long left) {
+            int best = 0;
+            int least = NONE;
+            for (int road = 0; road < roads; road++) {
+                int product = Long.bitCount(tails[road] & left) * Long.bitCount(heads[road] & left);
+                if (has(left, road) && product < least) {
+                    best = road;
+                    least = product;
+                }
+            }
+            return best;
+        }
+
+        private void bridge(long firsts, long seconds) {
+            for (int road = 0; road < roads; road++) {
+                if (has(firsts, road)) {
+                    heads[road] |= seconds & ~only(road);
+                }
+                if (has(seconds, road)) {
+                    tails[road] |= firsts & ~only(road);
+                }
+            }
+        }
+
+        /** Follows a change of a road's weight or closure; returns the number of changed arcs. */
+        int renewRoad(int road) {
+            if (!built) {
+                return 0;
+            }
+            renewSteps(network.forerunnersOf(road), only(road));
+            renewSteps(only(road), network.followersOf(road));
+            return settle();
+        }
+
+        /** Follows a change of a turn; returns the number of changed arcs. */
+        int renewTurn(int first, int second) {
+            if (!built) {
+                return 0;
+            }
+            renewSteps(only(first), only(second));
+            return settle();
+        }
+
+        /** Follows changes of any kind; returns the number of changed arcs. */
+        int renewAll() {
+            if (!built) {
+                return 0;
+            }
+            renewSteps(network.allRoads(), network.allRoads());
+            return settle();
+        }
+
+        private void renewSteps(long firsts, long seconds) {
+            for (int first = next(firsts, 0); first < MAX_ROADS; first = next(firsts, first + 1)) {
+                long followers = network.followersOf(first) & seconds;
+                for (int second = next(followers, 0); second < MAX_ROADS;
+                        second = next(followers, second + 1)) {
+                    int length = network.stepLength(first, second);
+                    if (length != steps[pair(first, second)]) {
+                        steps[pair(first, second)] = length;
+                        markHeads(first, only(second));
+                    }
+                }
+            }
+        }
+
+        /** Marks the arcs from one road to several as stale. */
+        private void markHeads(int tail, long seconds) {
+            staleHeads[tail] |= seconds & ~lower[tail];
+            long below = seconds & lower[tail];
+            for (int head = next(below, 0); head < MAX_ROADS; head = next(below, head + 1)) {
+                staleTails[head] |= only(tail);
+            }
+        }
+
+        /** Marks the arcs from several roads to one as stale. */
+        private void markTails(long firsts, int head) {
+            staleTails[head] |= firsts & ~lower[head];
+            long below = firsts & lower[head];
+            for (int tail = next(below, 0); tail < MAX_ROADS; tail = next(below, tail + 1)) {
+                staleHeads[tail] |= only(head);
+            }
+        }
+
+        /**
+         * Computes the stale arcs anew, and those that turn stale by it. An arc rests on arcs whose
+         * lower roads lie below both of its roads, so in the order of the positions each arc is
+         * computed once, with all that it rests on final.
+         */
+        private int settle() {
+            int changed = 0;
+            for (int taken = 0; taken < roads; taken++) {
+                int road = order[taken];
+                changed += settleFrom(road);
+                changed += settleTo(road);
+            }
+            return changed;
+        }
+
+        private int settleFrom(int road) {
+            long stale = staleHeads[road];
+            staleHeads[road] = 0;
+            long higherTails = tails[road] & ~lower[road];
+            int changed = 0;
+            for (int head = next(stale, 0); head < MAX_ROADS; head = next(stale, head + 1)) {
+                int old = lengths[pair(road, head)];
+                int fresh = computeArc(road, head);
+                if (fresh != old) {
+                    lengths[pair(road, head)] = fresh;
+                    markTails(higherTails & ~only(head), head);
+                    changed += costOf(fresh) != costOf(old) ? 1 : 0;
+                }
+            }
+            return changed;
+        }
+
+        private int settleTo(int road) {
+            long stale = staleTails[road];
+            staleTails[road] = 0;
+            long higherHeads = heads[road] & ~lower[road];
+            int changed = 0;
+            for (int tail = next(stale, 0); tail < MAX_ROADS; tail = next(stale, tail + 1)) {
+                int old = lengths[pair(tail, road)];
+                int fresh = computeArc(tail, road);
+                if (fresh != old) {
+                    lengths[pair(tail, road)] = fresh;
+                    markHeads(tail, higherHeads & ~only(tail));
+                    changed += costOf(fresh) != costOf(old) ? 1 : 0;
+                }
+            }
+            return changed;
+        }
+
+        private int computeArc(int first, int second) {
+            int least = steps[pair(first, second)];
+            long between = heads[first] & tails[second] & lower[first] & lower[second];
+            for (int road = next(between, 0); road < MAX_ROADS; road = next(between, road + 1)) {
+                least = Math.min(least, lengths[pair(first, road)] + lengths[pair(road, second)]);
+            }
+            return least;
+        }
+
+        /**
+         * Spreads lengths along the arcs, upwards in the order and then downwards: a best path
+         * climbs to its highest road and descends from there.
+         */
+        void spreadForward(int[] row) {
+            for (int taken = 0; taken < roads; taken++) {
+                int road = order[taken];
+                passOn(row, road, heads[road] & ~lower[road]);
+            }
+            for (int taken = roads - 1; taken >= 0; taken--) {
+                int road = order[taken];
+                passOn(row, road, heads[road] & lower[road]);
+            }
+        }
+
+        private void passOn(int[] row, int road, long targets) {
+            if (row[road] >= NONE) {
+                return;
+            }
+            for (int head = next(targets, 0); head < MAX_ROADS; head = next(targets, head + 1)) {
+                row[head] = Math.min(row[head], row[road] + lengths[pair(road, head)]);
+            }
+        }
+
+        /** Spreads lengths against the direction of the arcs. */
+        void spreadBackward(int[] row) {
+            for (int taken = 0; taken < roads; taken++) {
+                int road = order[taken];
+                passBack(row, road, tails[road] & ~lower[road]);
+            }
+            for (int taken = roads - 1; taken >= 0; taken--) {
+                int road = order[taken];
+                passBack(row, road, tails[road] & lower[road]);
+            }
+        }
+
+        private void passBack(int[] row, int road, long sources) {
+            if (row[road] >= NONE) {
+                return;
+            }
+            for (int tail = next(sources, 0); tail < MAX_ROADS; tail = next(sources, tail + 1)) {
+                row[tail] = Math.min(row[tail], lengths[pair(tail, road)] + row[road]);
+            }
+        }
+
+        /** Carries the checksum on over the costs of all arcs. */
+        long addArcs(long start) {
+            long d = start;
+            for (int first = 0; first < roads; first++) {
+                long seconds = heads[first];
+                for (int second = next(seconds, 0); second < MAX_ROADS;
+                        second = next(seconds, second + 1)) {
+                    d = d * 31 + costOf(lengths[pair(first, second)]);
+                }
+            }
+            return d;
+        }
+    }
+
+    /** What the open levels have stored; level i has its part of each row. */
+    private static final class Levels {
+        int count;
+        final int[] roads;
+        final int[] weights;
+        final int[] settings;
+        final long[] openRoads;
+        final int[] uTurns;
+
+        Levels() {
+            roads = new int[MAX_LEVELS];
+            weights = new int[MAX_LEVELS * MAX_ROADS];
+            settings = new int[MAX_LEVELS * PAIRS];
+            openRoads = new long[MAX_LEVELS];
+            uTurns = new int[MAX_LEVELS];
+        }
+
+        /** Opens a level; there are fewer than MAX_LEVELS. */
+        void store(Network network) {
+            int level = count;
+            roads[level] = network.roads;
+            System.arraycopy(network.weights, 0, weights, level * MAX_ROADS, network.roads);
+            System.arraycopy(network.settings, 0, settings, level * PAIRS, PAIRS);
+            openRoads[level] = network.openRoads;
+            uTurns[level] = network.uTurn;
+            count++;
+        }
+
+        /** Closes the latest level; there is one. Roads that are newer than it stay as they are. */
+        void restore(Network network) {
+            int level = count - 1;
+            int known = roads[level];
+            System.arraycopy(weights, level * MAX_ROADS, network.weights, 0, known);
+            for (int first = 0; first < known; first++) {
+                System.arraycopy(settings, level * PAIRS + pair(first, 0),
+                        network.settings, pair(first, 0), known);
+            }
+            long newer = known >= MAX_ROADS ? 0L : -1L << known;
+            network.openRoads = network.openRoads & newer | openRoads[level] & ~newer;
+            network.uTurn = uTurns[level];
+            count--;
+        }
+    }
+}
