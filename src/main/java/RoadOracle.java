@@ -749,52 +749,47 @@ public final class RoadOracle {
         }
 
         /**
-         * Computes the stale arcs anew, and those that turn stale by it. An arc rests on arcs whose
-         * lower roads lie below both of its roads, so in the order of the positions each arc is
-         * computed once, with all that it rests on final.
+         * Computes the stale arcs anew, and those that turn stale by it; returns how many costs
+         * have changed. An arc rests on arcs whose lower roads lie below both of its roads, so in
+         * the order of the positions each arc is computed once, with all that it rests on final.
          */
         private int settle() {
             int changed = 0;
             for (int taken = 0; taken < roads; taken++) {
                 int road = order[taken];
-                changed += settleFrom(road);
-                changed += settleTo(road);
+                long stale = staleHeads[road];
+                for (int head = next(stale, 0); head < MAX_ROADS; head = next(stale, head + 1)) {
+                    changed += settleArc(road, head);
+                }
+                staleHeads[road] = 0;
+                stale = staleTails[road];
+                for (int tail = next(stale, 0); tail < MAX_ROADS; tail = next(stale, tail + 1)) {
+                    changed += settleArc(tail, road);
+                }
+                staleTails[road] = 0;
             }
             return changed;
         }
 
-        private int settleFrom(int road) {
-            long stale = staleHeads[road];
-            staleHeads[road] = 0;
-            long higherTails = tails[road] & ~lower[road];
-            int changed = 0;
-            for (int head = next(stale, 0); head < MAX_ROADS; head = next(stale, head + 1)) {
-                int old = lengths[pair(road, head)];
-                int fresh = computeArc(road, head);
-                if (fresh != old) {
-                    lengths[pair(road, head)] = fresh;
-                    markTails(higherTails & ~only(head), head);
-                    changed += costOf(fresh) != costOf(old) ? 1 : 0;
-                }
+        /** Computes one arc anew; returns 1 if its cost has changed, else 0. */
+        private int settleArc(int tail, int head) {
+            int old = lengths[pair(tail, head)];
+            int fresh = computeArc(tail, head);
+            // Also a new number of roads alone concerns the arcs above.
+            if (fresh != old) {
+                lengths[pair(tail, head)] = fresh;
+                markAbove(tail, head);
             }
-            return changed;
+            return costOf(fresh) == costOf(old) ? 0 : 1;
         }
 
-        private int settleTo(int road) {
-            long stale = staleTails[road];
-            staleTails[road] = 0;
-            long higherHeads = heads[road] & ~lower[road];
-            int changed = 0;
-            for (int tail = next(stale, 0); tail < MAX_ROADS; tail = next(stale, tail + 1)) {
-                int old = lengths[pair(tail, road)];
-                int fresh = computeArc(tail, road);
-                if (fresh != old) {
-                    lengths[pair(tail, road)] = fresh;
-                    markHeads(tail, higherHeads & ~only(tail));
-                    changed += costOf(fresh) != costOf(old) ? 1 : 0;
-                }
+        /** Marks the arcs that go over the lower road of an arc, and by this arc, as stale. */
+        private void markAbove(int tail, int head) {
+            if (has(lower[head], tail)) {
+                markTails(tails[tail] & ~lower[tail] & ~only(head), head);
+            } else {
+                markHeads(tail, heads[head] & ~lower[head] & ~only(tail));
             }
-            return changed;
         }
 
         private int computeArc(int first, int second) {

@@ -24,6 +24,7 @@ public final class DistanceTest {
         keptReach();
         averageDistance();
         detour();
+        atTheLimits();
         check.finish("DistanceTest");
     }
 
@@ -299,5 +300,33 @@ public final class DistanceTest {
         check.fails("27: no path now", NONE, () -> x.detour(0, 2, 2));
         x.push();
         check.same("31: detour leaves no trace on a level", x.pop(), 0);
+    }
+
+    /** 32 junctions and 64 roads: a ring of two parallel roads from each junction to the next. */
+    private static void atTheLimits() {
+        RoadOracle x = Build.network(32);
+        for (int i = 0; i < 64; i++) {
+            x.addRoad(i % 32, (i + 1) % 32, i < 32 ? 3 : 2);
+        }
+        x.prepare();
+        check.same("19: distance(0, 31)", x.distance(0, 31), 62);
+        check.same("19: distance(1, 0)", x.distance(1, 0), 62);
+        check.same("20: distanceBehind(63, 31)", x.distanceBehind(63, 31), 62);
+        check.same("20: distanceBehind(0, 0)", x.distanceBehind(0, 0), 62);
+        check.same("21: route(1, 0)", x.route(1, 0), 31);
+        check.same("22: routeRoad(0)", x.routeRoad(0), 33);
+        check.same("22: routeRoad(30)", x.routeRoad(30), 63);
+        check.same("24: reach(31, 62)", x.reach(31, 62), 32);
+        check.same("25: reached(0)", x.reached(0), 31);
+        check.same("25: reached(1)", x.reached(1), 0);
+        check.same("25: reached(31)", x.reached(31), 30);
+        check.fails("25: reached(32)", INDEX, () -> x.reached(32));
+        check.sameDouble("26: averageDistance(31)", x.averageDistance(31), 32.0);
+        check.same("27: detour(31, 30, 63)", x.detour(31, 30, 63), 1);
+        x.setPlace(30, 3, true);
+        check.same("29: nearest(31, 3)", x.nearest(31, 3), 30);
+        x.setWeight(63, 10000);
+        check.same("21: route(31, 0)", x.route(31, 0), 1);
+        check.same("22: routeRoad(0)", x.routeRoad(0), 31);
     }
 }

@@ -48,7 +48,7 @@ public final class RandomRunsTest {
         for (int i = 0; i < junctions; i++) {
             play(oracle, naive, "addJunction", "", log);
         }
-        for (int i = 0; i < roads; i++) {
+        for (int tries = 0; tries < 200 && naive.roadCount() < roads; tries++) {
             play(oracle, naive, "addRoad", "jjw", log);
         }
         play(oracle, naive, "prepare", "", log);
