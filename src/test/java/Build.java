@@ -29,4 +29,28 @@ final class Build {
         }
         return x;
     }
+
+    /**
+     * The largest distance there is, made by 194 calls: the one path from junction 3 to junction 2
+     * passes all 64 roads in the order of their numbers, each with the weight 10000, by turns that
+     * each have the penalty 1000.
+     */
+    static RoadOracle longest() {
+        RoadOracle x = network(4, 3, 0, 10000);
+        for (int i = 1; i < 63; i++) {
+            x.addRoad(1 - i % 2, i % 2, 10000);
+        }
+        x.addRoad(0, 2, 10000);
+        x.setUTurn(RoadOracle.FORBIDDEN);
+        for (int i = 3; i < 63; i += 2) {
+            x.setTurn(0, i, RoadOracle.FORBIDDEN);
+            x.setTurn(i - 1, 63, RoadOracle.FORBIDDEN);
+        }
+        x.setTurn(0, 63, RoadOracle.FORBIDDEN);
+        for (int i = 0; i < 63; i++) {
+            x.setTurn(i, i + 1, 1000);
+        }
+        x.prepare();
+        return x;
+    }
 }

@@ -43,6 +43,16 @@ final class Check {
         complain(what + " threw nothing, due is " + due.getName());
     }
 
+    /** The call must not throw. */
+    void takes(String what, Call call) {
+        count++;
+        try {
+            call.run();
+        } catch (RuntimeException e) {
+            complain(what + " threw " + e + ", due is an answer");
+        }
+    }
+
     void complain(String text) {
         wrong++;
         if (wrong <= 50) {
