@@ -32,7 +32,9 @@ public final class RoadOracle {
     private final Hierarchy hierarchy;
     private final Levels levels;
     private final boolean[] places;
+    // What the latest search found, by road and by junction.
     private final int[] lengths;
+    private final int[] junctionLengths;
     private final int[] pathRoads;
     private int pathLength;
     private int pathCost;
@@ -46,6 +48,7 @@ public final class RoadOracle {
         levels = new Levels();
         places = new boolean[MAX_JUNCTIONS * KINDS];
         lengths = new int[MAX_ROADS];
+        junctionLengths = new int[MAX_JUNCTIONS];
         pathRoads = new int[MAX_ROADS];
         reachedJunctions = new int[MAX_JUNCTIONS];
         reachedCosts = new int[MAX_JUNCTIONS];
@@ -86,7 +89,8 @@ public final class RoadOracle {
 
     public int setOpen(int road, boolean isOpen) throws IndexOutOfBoundsException {
         requireRoad(road);
-        return openOrClose(road, isOpen);
+        network.openOrClose(road, isOpen);
+        return hierarchy.renewRoad(road);
     }
 
     public int setTurn(int first, int second, int setting)
@@ -194,8 +198,8 @@ public final class RoadOracle {
         if (has(network.openRoads, road)) {
             lengths[road] = 0;
         }
-        hierarchy.spreadForward(lengths);
-        return costOf(leastAmong(network.ending[to]));
+        spreadToJunctions();
+        return foundCost(to);
     }
 
     public int route(int from, int to)
@@ -239,7 +243,7 @@ public final class RoadOracle {
         searchFrom(from);
         reachedCount = 0;
         for (int junction = 0; junction < network.junctions; junction++) {
-            int cost = foundCost(from, junction);
+            int cost = foundCost(junction);
             if (cost >= 0 && cost <= budget) {
                 keepReached(junction, cost);
             }
@@ -262,7 +266,7 @@ public final class RoadOracle {
         int sum = 0;
         int count = 0;
         for (int junction = 0; junction < network.junctions; junction++) {
-            int cost = foundCost(from, junction);
+            int cost = foundCost(junction);
             if (junction != from && cost >= 0) {
                 sum += cost;
                 count++;
@@ -284,9 +288,11 @@ public final class RoadOracle {
         if (!has(network.openRoads, road)) {
             return 0;
         }
-        openOrClose(road, false);
+        network.openOrClose(road, false);
+        hierarchy.renewRoad(road);
         int then = costBetween(from, to);
-        openOrClose(road, true);
+        network.openOrClose(road, true);
+        hierarchy.renewRoad(road);
         return then < 0 ? -1 : then - now;
     }
 
@@ -310,7 +316,7 @@ public final class RoadOracle {
         int nearestJunction = -1;
         int leastCost = NONE;
         for (int junction = 0; junction < network.junctions; junction++) {
-            int cost = foundCost(from, junction);
+            int cost = foundCost(junction);
             if (places[place(junction, kind)] && cost >= 0 && cost < leastCost) {
                 nearestJunction = junction;
                 leastCost = cost;
@@ -396,50 +402,50 @@ public final class RoadOracle {
         }
     }
 
-    // ---- searches; they leave the lengths by road in the row lengths
+    // ---- searches
 
-    private int openOrClose(int road, boolean isOpen) {
-        long others = network.openRoads & ~only(road);
-        network.openRoads = isOpen ? others | only(road) : others;
-        return hierarchy.renewRoad(road);
-    }
-
-    /** Finds the length of the best path from the junction that ends with each road. */
+    /** Finds the lengths of the best paths from the junction, by the last road and by the goal. */
     private void searchFrom(int junction) {
         Arrays.fill(lengths, NONE);
         long starts = network.beginning[junction] & network.openRoads;
-        for (int road = next(starts, 0); road < MAX_ROADS; road = next(starts, road + 1)) {
-            lengths[road] = network.roadLength(road);
+        for (int road = 0; road < network.roads; road++) {
+            if (has(starts, road)) {
+                lengths[road] = network.roadLength(road);
+            }
         }
+        spreadToJunctions();
+        junctionLengths[junction] = 0;
+    }
+
+    private void spreadToJunctions() {
         hierarchy.spreadForward(lengths);
+        Arrays.fill(junctionLengths, NONE);
+        for (int road = 0; road < network.roads; road++) {
+            int goal = network.end[road];
+            junctionLengths[goal] = Math.min(junctionLengths[goal], lengths[road]);
+        }
     }
 
     /** Finds the length of the best way to the junction from behind each road. */
     private void searchTo(int junction) {
         Arrays.fill(lengths, NONE);
         long goals = network.ending[junction] & network.openRoads;
-        for (int road = next(goals, 0); road < MAX_ROADS; road = next(goals, road + 1)) {
-            lengths[road] = 0;
+        for (int road = 0; road < network.roads; road++) {
+            if (has(goals, road)) {
+                lengths[road] = 0;
+            }
         }
         hierarchy.spreadBackward(lengths);
     }
 
-    private int leastAmong(long roads) {
-        int least = NONE;
-        for (int road = next(roads, 0); road < MAX_ROADS; road = next(roads, road + 1)) {
-            least = Math.min(least, lengths[road]);
-        }
-        return least;
-    }
-
-    /** The distance between two junctions after searchFrom(from); -1 if there is no path. */
-    private int foundCost(int from, int to) {
-        return from == to ? 0 : costOf(leastAmong(network.ending[to]));
+    /** The cost that the latest search has found for a junction; -1 if there is no path. */
+    private int foundCost(int junction) {
+        return costOf(junctionLengths[junction]);
     }
 
     private int costBetween(int from, int to) {
         searchFrom(from);
-        return foundCost(from, to);
+        return foundCost(to);
     }
 
     /** The road that the best path begins with, after searchTo; -1 if there is no path. */
@@ -447,9 +453,9 @@ public final class RoadOracle {
         long starts = network.beginning[from] & network.openRoads;
         int first = -1;
         int least = NONE;
-        for (int road = next(starts, 0); road < MAX_ROADS; road = next(starts, road + 1)) {
+        for (int road = 0; road < network.roads; road++) {
             int length = network.roadLength(road) + lengths[road];
-            if (length < least) {
+            if (has(starts, road) && length < least) {
                 first = road;
                 least = length;
             }
@@ -472,8 +478,9 @@ public final class RoadOracle {
 
     private int bestNextRoad(int road) {
         long followers = network.followersOf(road);
-        for (int then = next(followers, 0); then < MAX_ROADS; then = next(followers, then + 1)) {
-            if (network.stepLength(road, then) + lengths[then] == lengths[road]) {
+        for (int then = 0; then < network.roads; then++) {
+            if (has(followers, then)
+                    && network.stepLength(road, then) + lengths[then] == lengths[road]) {
                 return then;
             }
         }
@@ -518,14 +525,6 @@ public final class RoadOracle {
         return (roads >> road & 1L) != 0;
     }
 
-    /** The smallest road of the set that is not smaller than start; MAX_ROADS if there is none. */
-    private static int next(long roads, int start) {
-        if (start >= MAX_ROADS) {
-            return MAX_ROADS;
-        }
-        return Long.numberOfTrailingZeros(roads & (-1L << start));
-    }
-
     /** The junctions, the roads and the turns as they are now. */
     private static final class Network {
         int junctions;
@@ -560,6 +559,11 @@ public final class RoadOracle {
             openRoads |= only(road);
             roads++;
             return road;
+        }
+
+        void openOrClose(int road, boolean isOpen) {
+            long others = openRoads & ~only(road);
+            openRoads = isOpen ? others | only(road) : others;
         }
 
         long allRoads() {
@@ -605,8 +609,7 @@ public final class RoadOracle {
         int shortcuts;
         final int[] positions;
         final int[] order;
-        // The roads with smaller positions, those that arcs lead to, and those that arcs lead from.
-        final long[] lower;
+        // The roads that arcs lead to from each road, and those that arcs lead from to it.
         final long[] heads;
         final long[] tails;
         // The length of each arc, and what it would be without any road between its two roads.
@@ -620,7 +623,6 @@ public final class RoadOracle {
             network = itsNetwork;
             positions = new int[MAX_ROADS];
             order = new int[MAX_ROADS];
-            lower = new long[MAX_ROADS];
             heads = new long[MAX_ROADS];
             tails = new long[MAX_ROADS];
             lengths = new int[PAIRS];
@@ -637,7 +639,6 @@ public final class RoadOracle {
                 int road = cheapest(left);
                 positions[road] = taken;
                 order[taken] = road;
-                lower[road] = network.allRoads() & ~left;
                 left &= ~only(road);
                 bridge(tails[road] & left, heads[road] & left);
             }
@@ -646,11 +647,12 @@ public final class RoadOracle {
                 arcs += Long.bitCount(heads[road]);
             }
             shortcuts = arcs - turns;
-            built = true;
             // Without any step no arc has a length; from there on all steps are changes.
             Arrays.fill(lengths, NONE);
             Arrays.fill(steps, NONE);
-            renewAll();
+            renewSteps(network.allRoads(), network.allRoads());
+            settle();
+            built = true;
         }
 
         private int linkTurns() {
@@ -668,10 +670,13 @@ public final class RoadOracle {
             int best = 0;
             int least = NONE;
             for (int road = 0; road < roads; road++) {
-                int product = Long.bitCount(tails[road] & left) * Long.bitCount(heads[road] & left);
-                if (has(left, road) && product < least) {
-                    best = road;
-                    least = product;
+                if (has(left, road)) {
+                    int into = Long.bitCount(tails[road] & left);
+                    int outOf = Long.bitCount(heads[road] & left);
+                    if (into * outOf < least) {
+                        best = road;
+                        least = into * outOf;
+                    }
                 }
             }
             return best;
@@ -717,34 +722,31 @@ public final class RoadOracle {
         }
 
         private void renewSteps(long firsts, long seconds) {
-            for (int first = next(firsts, 0); first < MAX_ROADS; first = next(firsts, first + 1)) {
-                long followers = network.followersOf(first) & seconds;
-                for (int second = next(followers, 0); second < MAX_ROADS;
-                        second = next(followers, second + 1)) {
+            for (int first = 0; first < roads; first++) {
+                if (has(firsts, first)) {
+                    renewStepsFrom(first, network.followersOf(first) & seconds);
+                }
+            }
+        }
+
+        private void renewStepsFrom(int first, long seconds) {
+            for (int second = 0; second < roads; second++) {
+                if (has(seconds, second)) {
                     int length = network.stepLength(first, second);
                     if (length != steps[pair(first, second)]) {
                         steps[pair(first, second)] = length;
-                        markHeads(first, only(second));
+                        markArc(first, second);
                     }
                 }
             }
         }
 
-        /** Marks the arcs from one road to several as stale. */
-        private void markHeads(int tail, long seconds) {
-            staleHeads[tail] |= seconds & ~lower[tail];
-            long below = seconds & lower[tail];
-            for (int head = next(below, 0); head < MAX_ROADS; head = next(below, head + 1)) {
-                staleTails[head] |= only(tail);
-            }
-        }
-
-        /** Marks the arcs from several roads to one as stale. */
-        private void markTails(long firsts, int head) {
-            staleTails[head] |= firsts & ~lower[head];
-            long below = firsts & lower[head];
-            for (int tail = next(below, 0); tail < MAX_ROADS; tail = next(below, tail + 1)) {
+        /** Marks an arc as stale, at its lower road. */
+        private void markArc(int tail, int head) {
+            if (positions[tail] < positions[head]) {
                 staleHeads[tail] |= only(head);
+            } else {
+                staleTails[head] |= only(tail);
             }
         }
 
@@ -755,17 +757,21 @@ public final class RoadOracle {
          */
         private int settle() {
             int changed = 0;
-            for (int taken = 0; taken < roads; taken++) {
-                int road = order[taken];
-                long stale = staleHeads[road];
-                for (int head = next(stale, 0); head < MAX_ROADS; head = next(stale, head + 1)) {
-                    changed += settleArc(road, head);
+            for (int low = 0; low < roads; low++) {
+                int road = order[low];
+                if (staleHeads[road] == 0 && staleTails[road] == 0) {
+                    continue;
+                }
+                for (int high = low + 1; high < roads; high++) {
+                    int other = order[high];
+                    if (has(staleHeads[road], other)) {
+                        changed += settleArc(road, other);
+                    }
+                    if (has(staleTails[road], other)) {
+                        changed += settleArc(other, road);
+                    }
                 }
                 staleHeads[road] = 0;
-                stale = staleTails[road];
-                for (int tail = next(stale, 0); tail < MAX_ROADS; tail = next(stale, tail + 1)) {
-                    changed += settleArc(tail, road);
-                }
                 staleTails[road] = 0;
             }
             return changed;
@@ -783,22 +789,37 @@ public final class RoadOracle {
             return costOf(fresh) == costOf(old) ? 0 : 1;
         }
 
-        /** Marks the arcs that go over the lower road of an arc, and by this arc, as stale. */
-        private void markAbove(int tail, int head) {
-            if (has(lower[head], tail)) {
-                markTails(tails[tail] & ~lower[tail] & ~only(head), head);
-            } else {
-                markHeads(tail, heads[head] & ~lower[head] & ~only(tail));
-            }
-        }
-
         private int computeArc(int first, int second) {
             int least = steps[pair(first, second)];
-            long between = heads[first] & tails[second] & lower[first] & lower[second];
-            for (int road = next(between, 0); road < MAX_ROADS; road = next(between, road + 1)) {
-                least = Math.min(least, lengths[pair(first, road)] + lengths[pair(road, second)]);
+            long between = heads[first] & tails[second];
+            int stop = Math.min(positions[first], positions[second]);
+            for (int position = 0; position < stop; position++) {
+                int road = order[position];
+                if (has(between, road)) {
+                    int over = lengths[pair(first, road)] + lengths[pair(road, second)];
+                    least = Math.min(least, over);
+                }
             }
             return least;
+        }
+
+        /** Marks the arcs that go over the lower road of an arc, and by this arc, as stale. */
+        private void markAbove(int tail, int head) {
+            if (positions[tail] < positions[head]) {
+                for (int position = positions[tail] + 1; position < roads; position++) {
+                    int other = order[position];
+                    if (other != head && has(tails[tail], other)) {
+                        markArc(other, head);
+                    }
+                }
+            } else {
+                for (int position = positions[head] + 1; position < roads; position++) {
+                    int other = order[position];
+                    if (other != tail && has(heads[head], other)) {
+                        markArc(tail, other);
+                    }
+                }
+            }
         }
 
         /**
@@ -806,43 +827,46 @@ public final class RoadOracle {
          * climbs to its highest road and descends from there.
          */
         void spreadForward(int[] row) {
-            for (int taken = 0; taken < roads; taken++) {
-                int road = order[taken];
-                passOn(row, road, heads[road] & ~lower[road]);
+            for (int position = 0; position < roads; position++) {
+                passOn(row, order[position], position + 1, roads);
             }
-            for (int taken = roads - 1; taken >= 0; taken--) {
-                int road = order[taken];
-                passOn(row, road, heads[road] & lower[road]);
+            for (int position = roads - 1; position >= 0; position--) {
+                passOn(row, order[position], 0, position);
             }
         }
 
-        private void passOn(int[] row, int road, long targets) {
+        /** Passes a road's length on along its arcs to roads with positions from start to stop - 1. */
+        private void passOn(int[] row, int road, int start, int stop) {
             if (row[road] >= NONE) {
                 return;
             }
-            for (int head = next(targets, 0); head < MAX_ROADS; head = next(targets, head + 1)) {
-                row[head] = Math.min(row[head], row[road] + lengths[pair(road, head)]);
+            for (int position = start; position < stop; position++) {
+                int head = order[position];
+                if (has(heads[road], head)) {
+                    row[head] = Math.min(row[head], row[road] + lengths[pair(road, head)]);
+                }
             }
         }
 
         /** Spreads lengths against the direction of the arcs. */
         void spreadBackward(int[] row) {
-            for (int taken = 0; taken < roads; taken++) {
-                int road = order[taken];
-                passBack(row, road, tails[road] & ~lower[road]);
+            for (int position = 0; position < roads; position++) {
+                passBack(row, order[position], position + 1, roads);
             }
-            for (int taken = roads - 1; taken >= 0; taken--) {
-                int road = order[taken];
-                passBack(row, road, tails[road] & lower[road]);
+            for (int position = roads - 1; position >= 0; position--) {
+                passBack(row, order[position], 0, position);
             }
         }
 
-        private void passBack(int[] row, int road, long sources) {
+        private void passBack(int[] row, int road, int start, int stop) {
             if (row[road] >= NONE) {
                 return;
             }
-            for (int tail = next(sources, 0); tail < MAX_ROADS; tail = next(sources, tail + 1)) {
-                row[tail] = Math.min(row[tail], lengths[pair(tail, road)] + row[road]);
+            for (int position = start; position < stop; position++) {
+                int tail = order[position];
+                if (has(tails[road], tail)) {
+                    row[tail] = Math.min(row[tail], lengths[pair(tail, road)] + row[road]);
+                }
             }
         }
 
@@ -850,10 +874,10 @@ public final class RoadOracle {
         long addArcs(long start) {
             long d = start;
             for (int first = 0; first < roads; first++) {
-                long seconds = heads[first];
-                for (int second = next(seconds, 0); second < MAX_ROADS;
-                        second = next(seconds, second + 1)) {
-                    d = d * 31 + costOf(lengths[pair(first, second)]);
+                for (int second = 0; second < roads; second++) {
+                    if (has(heads[first], second)) {
+                        d = d * 31 + costOf(lengths[pair(first, second)]);
+                    }
                 }
             }
             return d;
