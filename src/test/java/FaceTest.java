@@ -10,16 +10,44 @@ import java.util.TreeSet;
 
 /** The face of the class: what the document names, and no other member that can be seen. */
 public final class FaceTest {
+    /** The methods with the exceptions that they name, in the order of the document. */
     private static final String[] METHODS = {
-        "int addJunction()", "int addRoad(int,int,int)", "int setWeight(int,int)",
-        "int setOpen(int,boolean)", "int setTurn(int,int,int)", "int setUTurn(int)",
-        "int junctionCount()", "int roadCount()", "int weight(int)", "boolean isOpen(int)",
-        "int turnPenalty(int,int)", "int prepare()", "boolean isPrepared()", "int position(int)",
-        "int arcCount()", "boolean hasArc(int,int)", "int arcCost(int,int)",
-        "int distance(int,int)", "int distanceBehind(int,int)", "int route(int,int)",
-        "int routeRoad(int)", "int routeCost()", "int reach(int,int)", "int reached(int)",
-        "double averageDistance(int)", "int detour(int,int,int)",
-        "boolean setPlace(int,int,boolean)", "int nearest(int,int)", "int push()", "int pop()",
+        "int addJunction() throws IllegalStateException",
+        "int addRoad(int,int,int)"
+                + " throws IndexOutOfBoundsException,IllegalArgumentException,IllegalStateException",
+        "int setWeight(int,int) throws IndexOutOfBoundsException,IllegalArgumentException",
+        "int setOpen(int,boolean) throws IndexOutOfBoundsException",
+        "int setTurn(int,int,int) throws IndexOutOfBoundsException,IllegalArgumentException",
+        "int setUTurn(int) throws IllegalArgumentException",
+        "int junctionCount()",
+        "int roadCount()",
+        "int weight(int) throws IndexOutOfBoundsException",
+        "boolean isOpen(int) throws IndexOutOfBoundsException",
+        "int turnPenalty(int,int) throws IndexOutOfBoundsException,IllegalArgumentException",
+        "int prepare() throws IllegalStateException",
+        "boolean isPrepared()",
+        "int position(int) throws IllegalStateException,IndexOutOfBoundsException",
+        "int arcCount()",
+        "boolean hasArc(int,int) throws IllegalStateException,IndexOutOfBoundsException",
+        "int arcCost(int,int)"
+                + " throws IllegalStateException,IndexOutOfBoundsException,NoSuchElementException",
+        "int distance(int,int) throws IllegalStateException,IndexOutOfBoundsException",
+        "int distanceBehind(int,int) throws IllegalStateException,IndexOutOfBoundsException",
+        "int route(int,int)"
+                + " throws IllegalStateException,IndexOutOfBoundsException,NoSuchElementException",
+        "int routeRoad(int) throws IndexOutOfBoundsException",
+        "int routeCost()",
+        "int reach(int,int)"
+                + " throws IllegalStateException,IndexOutOfBoundsException,IllegalArgumentException",
+        "int reached(int) throws IndexOutOfBoundsException",
+        "double averageDistance(int) throws IllegalStateException,IndexOutOfBoundsException",
+        "int detour(int,int,int)"
+                + " throws IllegalStateException,IndexOutOfBoundsException,NoSuchElementException",
+        "boolean setPlace(int,int,boolean) throws IndexOutOfBoundsException",
+        "int nearest(int,int)"
+                + " throws IllegalStateException,IndexOutOfBoundsException,NoSuchElementException",
+        "int push() throws IllegalStateException",
+        "int pop() throws IllegalStateException",
         "long digest()"
     };
 
@@ -77,7 +105,12 @@ public final class FaceTest {
         for (Class<?> type : method.getParameterTypes()) {
             text.append(text.length() == 0 ? "" : ",").append(type.getSimpleName());
         }
-        return method.getReturnType().getSimpleName() + " " + method.getName() + "(" + text + ")";
+        StringBuilder exceptions = new StringBuilder();
+        for (Class<?> type : method.getExceptionTypes()) {
+            exceptions.append(exceptions.length() == 0 ? " throws " : ",").append(type.getSimpleName());
+        }
+        return method.getReturnType().getSimpleName() + " " + method.getName() + "(" + text + ")"
+                + exceptions;
     }
 
     private static void theConstants() {
@@ -88,6 +121,7 @@ public final class FaceTest {
         for (Field field : RoadOracle.class.getDeclaredFields()) {
             if (!isHidden(field)) {
                 check.same(field + " is a constant", field.getModifiers(), constant);
+                check.same(field + " is an int", field.getType() == int.class, true);
                 seen++;
             }
             if (Modifier.isStatic(field.getModifiers())) {
