@@ -470,12 +470,12 @@ public final class RoadOracle {
         while (road >= 0 && count < MAX_ROADS) {
             pathRoads[count] = road;
             count++;
-            // Only a road that ends at the goal has the length 0, as every step has one road more.
-            road = lengths[road] == 0 ? -1 : bestNextRoad(road);
+            road = bestNextRoad(road);
         }
         return count;
     }
 
+    /** The next road of the best path; -1 at the goal, as every step has a length above 0. */
     private int bestNextRoad(int road) {
         long followers = network.followersOf(road);
         for (int then = 0; then < network.roads; then++) {
